@@ -529,7 +529,7 @@ public final class TimedYard {
             }
             for (int p = 0; p < size; p++) {
                 int toJ = sum(at(p, i), mark);
-                for (int q = 0; q < size; q++) {
+                for (int q = 0; q < size && toJ != ANY; q++) {
                     bounds[p * size + q] = Math.min(at(p, q), sum(toJ, at(j, q)));
                 }
             }
@@ -575,12 +575,17 @@ public final class TimedYard {
             if (empty || greatest.length != size) {
                 return;
             }
+            boolean changed = false;
             for (int i = 0; i < size; i++) {
                 for (int j = 0; j < size; j++) {
-                    bounds[i * size + j] = loosened(i, at(i, j), greatest[i], greatest[j]);
+                    int left = loosened(i, at(i, j), greatest[i], greatest[j]);
+                    changed = changed || left != at(i, j);
+                    bounds[i * size + j] = left;
                 }
             }
-            close();
+            if (changed) {
+                close();
+            }
         }
 
         private static int loosened(int i, int bound, int greatestOfI, int greatestOfJ) {
