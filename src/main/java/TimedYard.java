@@ -559,7 +559,7 @@ public final class TimedYard {
                     continue;
                 }
                 for (int j = 0; j < size; j++) {
-                    boolean both = j == i || isSet(sets, j);
+                    boolean both = isSet(sets, j);
                     bounds[i * size + j] = both ? AT_MOST_ZERO : at(0, j);
                     bounds[j * size + i] = both ? AT_MOST_ZERO : at(j, 0);
                 }
@@ -636,10 +636,8 @@ public final class TimedYard {
         /** A copy, as limits may still come to this one. */
         Place asItIs() {
             Place same = new Place();
-            for (int t = 0; t < limitCount && t < MOST_LIMITS; t++) {
-                same.clocks[t] = clocks[t];
-                same.marks[t] = marks[t];
-            }
+            System.arraycopy(clocks, 0, same.clocks, 0, MOST_LIMITS);
+            System.arraycopy(marks, 0, same.marks, 0, MOST_LIMITS);
             same.limitCount = limitCount;
             return same;
         }
@@ -668,10 +666,8 @@ public final class TimedYard {
         /** A copy, as tests may still come to this one. */
         Way asItIs() {
             Way same = new Way(from, to, word, sets);
-            for (int t = 0; t < testCount && t < MOST_TESTS; t++) {
-                same.pairs[t] = pairs[t];
-                same.marks[t] = marks[t];
-            }
+            System.arraycopy(pairs, 0, same.pairs, 0, MOST_TESTS);
+            System.arraycopy(marks, 0, same.marks, 0, MOST_TESTS);
             same.testCount = testCount;
             return same;
         }

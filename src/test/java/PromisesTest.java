@@ -18,7 +18,9 @@ public final class PromisesTest {
         walkOrder();
         walkSpent();
         walkWithWords();
+        walkSpentByWords();
         walkLimitsOfAll();
+        walkAgain();
         state();
         bound();
         seen();
@@ -369,6 +371,54 @@ public final class PromisesTest {
         due("walk()", u.walk(), 1);
     }
 
+    private static void walkSpentByWords() {
+        promise = 7;
+        TimedYard x = withMachines(1, 1);
+        x.way(0, 0, 0, 8, 1);
+        x.test(0, 0, 1, -1, false);
+        x.test(0, 0, 4, 1, false);
+        x.test(0, 0, 6, 0, false);
+        x.way(1, 0, 0, -8, 0);
+        due("walk()", x.walk(), -202);
+        due("count(2)", x.count(2), 199);
+        due("state(199, 5)", x.state(199, 5), -2);
+        due("stuck(199)", x.stuck(199), -1);
+        due("lead(199, 198, 2)", x.lead(199, 198, 2), 1);
+    }
+
+    /** The same machines are gone through in the same way, whatever was walked before. */
+    private static void walkAgain() {
+        promise = 7;
+        TimedYard x = withMachines(3);
+        x.way(0, 0, 1, 0, 1);
+        x.test(0, 0, 1, -2, false);
+        x.way(0, 0, 0, 0, 0);
+        x.way(0, 1, 2, 0, 0);
+        for (int turn = 0; turn < 3; turn++) {
+            due("walk()", x.walk(), 3);
+            due("count(2)", x.count(2), 3);
+            due("count(3)", x.count(3), 3);
+            due("count(4)", x.count(4), 1);
+            due("state(0, 4)", x.state(0, 4), 1);
+            due("state(0, 5)", x.state(0, 5), 2);
+            due("soonest(0)", x.soonest(0), 0);
+            due("soonest(2)", x.soonest(2), 4);
+            dueBounds(x, 0, 1, 1, 1, 1, A, 1, 1, 1, A, 1, 1, 1, A, 1, 1, 1);
+        }
+        // A state that was not THE FIRST may come to be it, and the other way round.
+        x.limit(0, 0, 1, 1, false);
+        due("walk()", x.walk(), 1);
+        due("state(1, 0)", x.state(1, 0), -1);
+        due("count(2)", x.count(2), 1);
+        due("seen(2, -1, -1)", x.seen(2, -1, -1), -2);
+        x.limit(0, 0, 2, 0, true);
+        due("walk()", x.walk(), 0);
+        due("count(2)", x.count(2), 0);
+        due("count(3)", x.count(3), 0);
+        due("count(4)", x.count(4), 0);
+        due("state(0, 0)", x.state(0, 0), -1);
+    }
+
     private static void walkLimitsOfAll() {
         promise = 7;
         // A machine that stays still holds time back, as does the place that a way leads to.
@@ -544,6 +594,9 @@ public final class PromisesTest {
         due("hand(3, 9)", x.hand(3, 9), 0);
         due("handBound(1, 1)", x.handBound(1, 1), -2000000);
         due("pass()", x.pass(), 1);
+        due("hand(1, 9)", x.hand(1, 9), 0);
+        dueHand(x, "all 0:", 1, 1, 1, 1, 1, 1, 1, 1, 1, 1, 1, 1, 1, 1, 1, 1);
+        x.hand(3, 0);
         due("hand(0, 9)", x.hand(0, 9), 0);
         dueHand(x, "all times:", 1, 1, 1, 1, A, 1, A, A, A, A, 1, A, A, A, A, 1);
         int[][] bad = {{2, 1}, {2, -1}, {2, LEAST}, {2, MOST}, {4, 0}, {-1, 0}, {LEAST, 0}, {MOST, 0}};
@@ -635,6 +688,20 @@ public final class PromisesTest {
         dueHand(x, "let go:", 1, 1, -2, 1, A, 1, -2, A, A, A, 1, A, A, A, A, 1);
         due("letGo(0, 0, 0)", x.letGo(0, 0, 0), 0);
         dueHand(x, "let go:", 1, 1, 0, 1, A, 1, 0, A, A, A, 1, A, A, A, A, 1);
+        // Each number is that of its own clock.
+        x.hand(0, 0);
+        for (int clock = 1; clock < 4; clock++) {
+            x.tighten(0, clock, -90, false);
+            x.tighten(clock, 0, 50 + 50 * clock, false);
+        }
+        due("letGo(100, 149, 80)", x.letGo(100, 149, 80), 0);
+        due("handBound(1, 0)", x.handBound(1, 0), 201);
+        // Clock 2 less clock 1 is still at most 60.
+        due("handBound(2, 0)", x.handBound(2, 0), 321);
+        due("handBound(3, 0)", x.handBound(3, 0), A);
+        due("handBound(0, 1)", x.handBound(0, 1), -179);
+        due("handBound(0, 2)", x.handBound(0, 2), -179);
+        due("handBound(0, 3)", x.handBound(0, 3), -160);
         // What is let go comes back where other bounds give it.
         TimedYard y = new TimedYard();
         y.hand(1, 0);
