@@ -30,7 +30,7 @@ public final class RandomRunsTest {
     }
 
     public static void main(String[] args) {
-        int runs = args.length > 0 ? Integer.parseInt(args[0]) : 1500;
+        int runs = args.length > 0 ? Integer.parseInt(args[0]) : 800;
         int wrong = 0;
         for (int seed = 0; seed < runs && wrong == 0; seed++) {
             RandomRunsTest run = new RandomRunsTest(seed);
