@@ -227,12 +227,14 @@ public final class TimedYard {
         if (!isClock(i) || !isClock(j) || i == j || !isBetween(c, -MOST_BY_HAND, MOST_BY_HAND)) {
             return NO_SUCH;
         }
-        handZone.squeeze(i, j, Zone.mark(c, below));
+        handZone.narrow(i, j, Zone.mark(c, below));
+        handZone.close();
         return handEmpty();
     }
 
     public int pass() {
         handZone.elapse();
+        handZone.close();
         return handEmpty();
     }
 
@@ -241,6 +243,7 @@ public final class TimedYard {
             return NO_SUCH;
         }
         handZone.reset(clocks);
+        handZone.close();
         return handEmpty();
     }
 
@@ -253,6 +256,7 @@ public final class TimedYard {
         handGreatest[2] = b;
         handGreatest[3] = c;
         handZone.loosen(handGreatest);
+        handZone.close();
         return handEmpty();
     }
 
@@ -262,6 +266,7 @@ public final class TimedYard {
             return NO_SUCH;
         }
         handZone.cutBy(told.zone);
+        handZone.close();
         return handEmpty();
     }
 
@@ -467,7 +472,10 @@ public final class TimedYard {
         }
     }
 
-    /** Bounds on the differences of all clocks; always closed unless it is empty. */
+    /**
+     * Bounds on the differences of all clocks; closed between calls, unless it is empty. In a walk
+     * none comes near ANY (200 moves, 100 at most by each); in the hand they may, by many calls.
+     */
     static final class Zone {
         final int size;
         final int[] bounds;
@@ -518,7 +526,24 @@ public final class TimedYard {
             empty = other.empty;
         }
 
-        /** TIGHTENED: in a closed zone, what becomes tighter goes just once from i to j. */
+        /** The bound alone, where it is tighter: the zone must be closed then. */
+        void narrow(int i, int j, int mark) {
+            bounds[i * size + j] = Math.min(at(i, j), mark);
+        }
+
+        /** Each bound the tighter one of both: the zone must be closed then. */
+        void cutBy(Zone other) {
+            for (int i = 0; i < size; i++) {
+                for (int j = 0; j < size && other.size == size; j++) {
+                    narrow(i, j, other.at(i, j));
+                }
+            }
+        }
+
+        /**
+         * TIGHTENED and closed at once, in a walk alone: what becomes tighter goes just once from i
+         * to j. Near ANY a sum on the way may be too great to be kept while the whole one is not.
+         */
         void squeeze(int i, int j, int mark) {
             if (empty || mark >= at(i, j)) {
                 return;
@@ -531,16 +556,6 @@ public final class TimedYard {
                 int toJ = sum(at(p, i), mark);
                 for (int q = 0; q < size && toJ != ANY; q++) {
                     bounds[p * size + q] = Math.min(at(p, q), sum(toJ, at(j, q)));
-                }
-            }
-        }
-
-        void cutBy(Zone other) {
-            for (int i = 0; i < size; i++) {
-                for (int j = 0; j < size; j++) {
-                    if (i != j && other.size == size) {
-                        squeeze(i, j, other.at(i, j));
-                    }
                 }
             }
         }
@@ -570,10 +585,10 @@ public final class TimedYard {
             return clock > 0 && clock < CLOCKS && (sets >> (clock - 1) & 1) == 1;
         }
 
-        /** LET GO, of a zone without the clock TOTAL. */
-        void loosen(int[] greatest) {
+        /** LET GO, of a zone without the clock TOTAL: true if the zone must be closed then. */
+        boolean loosen(int[] greatest) {
             if (empty || greatest.length != size) {
-                return;
+                return false;
             }
             boolean changed = false;
             for (int i = 0; i < size; i++) {
@@ -583,9 +598,7 @@ public final class TimedYard {
                     bounds[i * size + j] = left;
                 }
             }
-            if (changed) {
-                close();
-            }
+            return changed;
         }
 
         private static int loosened(int i, int bound, int greatestOfI, int greatestOfJ) {
@@ -596,14 +609,26 @@ public final class TimedYard {
             return c < -greatestOfJ ? mark(-greatestOfJ, true) : bound;
         }
 
-        private void close() {
-            for (int k = 0; k < size; k++) {
+        /** CLOSED, step by step as the Terms tell it: near ANY another order may give another zone. */
+        void close() {
+            for (int k = 0; k < size && !empty; k++) {
                 for (int i = 0; i < size; i++) {
                     for (int j = 0; j < size; j++) {
-                        bounds[i * size + j] = Math.min(at(i, j), sum(at(i, k), at(k, j)));
+                        narrow(i, j, sum(at(i, k), at(k, j)));
                     }
                 }
+                empty = isBroken();
             }
+        }
+
+        /** A clock and itself tighter than at most 0: that stays so, whatever is still summed. */
+        private boolean isBroken() {
+            for (int i = 0; i < size; i++) {
+                if (at(i, i) < AT_MOST_ZERO) {
+                    return true;
+                }
+            }
+            return false;
         }
 
         /** WITHIN; what is empty lies in all, and nothing else lies in what is empty. */
@@ -866,9 +891,7 @@ public final class TimedYard {
             first.exact.becomeAllZero();
             stay(first.exact);
             first.soonestTime = 0;
-            if (letsGo) {
-                next.loosen(greatest);
-            }
+            letGreatGo();
             first.zone.becomeAs(next);
         }
 
@@ -974,9 +997,7 @@ public final class TimedYard {
                 return true;
             }
             from.moveCount++;
-            if (letsGo) {
-                next.loosen(greatest);
-            }
+            letGreatGo();
             if (isCovered()) {
                 from.coveredCount++;
                 return true;
@@ -1027,6 +1048,12 @@ public final class TimedYard {
                 for (int t = 0; place != null && t < place.limitCount && t < MOST_LIMITS; t++) {
                     zone.squeeze(place.clocks[t], 0, place.marks[t]);
                 }
+            }
+        }
+
+        private void letGreatGo() {
+            if (letsGo && next.loosen(greatest)) {
+                next.close();
             }
         }
 

@@ -16,11 +16,9 @@ final class PlainYard {
             return any ? 1000000 : below ? 2 * c : 2 * c + 1;
         }
 
+        /** By the numbers: a sum that is written greater than ANY is not tighter than ANY. */
         boolean tighterThan(Bound other) {
-            if (any || other.any) {
-                return !any && other.any;
-            }
-            return c < other.c || c == other.c && below && !other.below;
+            return written() < other.written();
         }
 
         Bound plus(Bound other) {
