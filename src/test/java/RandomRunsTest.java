@@ -30,11 +30,15 @@ public final class RandomRunsTest {
     }
 
     public static void main(String[] args) {
-        int runs = args.length > 0 ? Integer.parseInt(args[0]) : 800;
+        int runs = args.length > 0 ? Integer.parseInt(args[0]) : 1600;
         int wrong = 0;
         for (int seed = 0; seed < runs && wrong == 0; seed++) {
             RandomRunsTest run = new RandomRunsTest(seed);
-            run.go();
+            if (seed % 2 == 0) {
+                run.go();
+            } else {
+                run.goFar();
+            }
             if (run.wrong > 0) {
                 wrong++;
                 System.out.println("run " + seed + ":");
@@ -59,6 +63,102 @@ public final class RandomRunsTest {
             for (int n = 0; n < 6 && wrong == 0; n++) {
                 call(random.nextInt(5));
             }
+        }
+    }
+
+    /** The hand alone, with bounds that have come near ANY. */
+    private void goFar() {
+        int[][] orders = {{1, 2, 3}, {1, 3, 2}, {2, 1, 3}, {2, 3, 1}, {3, 1, 2}, {3, 2, 1}};
+        int[] order = orders[random.nextInt(6)];
+        buildFar(order[1], order[2]);
+        hand(random.nextInt(2), 0);
+        growFar(order[0], order[1], order[2]);
+        lookAtHand();
+        if (random.nextBoolean()) {
+            due("pass()", yard.pass(), plain.pass());
+            tightenFar(order[1], 0, number(100, 400), false);
+        }
+        for (int n = 0; n < 40 && wrong == 0 && plain.handBound(0, 0) == 1; n++) {
+            callFar(order[0]);
+            lookAtHand();
+        }
+    }
+
+    /** The clocks that count: in each state counter leads ticker by up to 100 more. */
+    private void buildFar(int counter, int ticker) {
+        due("machine()", yard.machine(), plain.machine());
+        for (int p = 0; p < 6; p++) {
+            due("place(0)", yard.place(0), plain.place(0));
+        }
+        way(0, 0, 1, 0, bit(counter) | bit(ticker));
+        way(0, 1, 1, 0, bit(ticker));
+        test(0, 1, 4 * ticker, 100, random.nextInt(3) == 0);
+        test(0, 1, 4 * ticker + counter, 0, false);
+        if (random.nextBoolean()) {
+            test(0, 1, ticker, -number(1, 100), random.nextInt(3) == 0);
+        }
+        // A few states of other shapes come before the long row.
+        for (int w = 2; w < 8; w++) {
+            int from = random.nextBoolean() ? 0 : number(2, 4);
+            way(0, from, Math.max(from, 1) + 1, 0, number(0, 7));
+            int pair = number(0, 14);
+            int c = pair / 4 == 0 ? -number(0, 100) : number(-100, 100);
+            test(0, w, pair % 5 == 0 ? pair + 1 : pair, c, random.nextBoolean());
+        }
+        walk();
+    }
+
+    private static int bit(int clock) {
+        return 1 << clock - 1;
+    }
+
+    /** Counts with both clocks while the third one, kept, comes to lead by about 500000. */
+    private void growFar(int kept, int counter, int ticker) {
+        due("pass()", yard.pass(), plain.pass());
+        set(bit(ticker));
+        tightenFar(kept, counter, 0, false);
+        int goal = 2 * (499500 + random.nextInt(600));
+        for (int n = 0; n < 100 && wrong == 0; n++) {
+            int left = goal - yard.handBound(kept, counter);
+            int step = states - 1;
+            while (step > 0 && yard.bound(step, counter, ticker) > left) {
+                step--;
+            }
+            if (left < 200 || step <= 0) {
+                break;
+            }
+            meet(step);
+            set(bit(counter) | bit(ticker));
+            due("pass()", yard.pass(), plain.pass());
+            set(bit(ticker));
+        }
+    }
+
+    private void tightenFar(int i, int j, int c, boolean below) {
+        due("tighten(" + i + ", " + j + ", " + c + ", " + below + ")",
+            yard.tighten(i, j, c, below), plain.tighten(i, j, c, below));
+    }
+
+    /** Seldom a call that bounds the clock that leads, or lets it go: nothing is far then. */
+    private void callFar(int kept) {
+        int kind = random.nextInt(20);
+        if (kind < 11) {
+            int i = number(0, 3);
+            int j = number(0, 3);
+            int c = i == 0 ? number(-400, 0) : number(random.nextInt(3) == 0 ? -400 : 0, 400);
+            if (i != kept || random.nextInt(20) == 0) {
+                tightenFar(i, j, c, random.nextInt(4) == 0);
+            }
+        } else if (kind < 14) {
+            due("pass()", yard.pass(), plain.pass());
+        } else if (kind < 16) {
+            meet(random.nextBoolean() ? number(0, 20) : someState());
+        } else if (kind < 18) {
+            set(bit(1 + (kept + random.nextInt(2)) % 3));
+        } else if (kind == 18) {
+            within(someState());
+        } else if (random.nextInt(8) == 0) {
+            letGo(number(0, 200), number(0, 200), number(0, 200));
         }
     }
 
@@ -219,6 +319,11 @@ public final class RandomRunsTest {
             yard.way(m, from, to, word, sets), plain.way(m, from, to, word, sets));
     }
 
+    private void test(int m, int w, int pair, int c, boolean below) {
+        due("test(" + m + ", " + w + ", " + pair + ", " + c + ", " + below + ")",
+            yard.test(m, w, pair, c, below), plain.test(m, w, pair, c, below));
+    }
+
     private void test(int m, int w, boolean below) {
         int pair = somePair();
         int i = pair / 4;
@@ -229,9 +334,7 @@ public final class RandomRunsTest {
         } else if (pair % 4 != 0 && random.nextBoolean()) {
             c = -c;
         }
-        int told = c;
-        due("test(" + m + ", " + w + ", " + pair + ", " + told + ", " + below + ")",
-            yard.test(m, w, pair, told, below), plain.test(m, w, pair, told, below));
+        test(m, w, pair, c, below);
     }
 
     private void walk() {
