@@ -2,13 +2,12 @@
  * Promises 14 to 21 where THE HAND's BOUNDS come near ANY, or go beyond it without their sign: there
  * a SUM may be written greater than ANY, is not tighter then, and the ZONE is CLOSED all the same.
  */
-public final class FarBoundsTest {
-    private static final int A = TimedYard.ANY;
+public final class FarBoundsTest extends YardCheck {
     /** The STATE that bounds CLOCK 3 from below, and leaves the differences free. */
     private static final int WAITED = 6;
-    private static int wrong = 0;
 
     public static void main(String[] args) {
+        says("THE HAND's ZONE near ANY");
         theYard();
         sumsBesideAny();
         tightenedIsClosed();
@@ -17,24 +16,7 @@ public final class FarBoundsTest {
         letGo();
         passedAndSet();
         farBelow();
-        System.out.println(wrong == 0 ? "far bounds are as due" : wrong + " answers are not as due");
-        if (wrong != 0) {
-            System.exit(1);
-        }
-    }
-
-    private static void due(String call, long got, long want) {
-        if (got != want) {
-            wrong++;
-            System.out.println(call + " answered " + got + ", due is " + want);
-        }
-    }
-
-    private static void dueHand(TimedYard x, String when, int... bounds) {
-        for (int at = 0; at < 16; at++) {
-            due(when + " handBound(" + at / 4 + ", " + at % 4 + ")",
-                x.handBound(at / 4, at % 4), bounds[at]);
-        }
+        end("far bounds are as due");
     }
 
     /** STATE k, from 7 on: CLOCK 2 leads CLOCK 3 by at most (exact: just) 100 (k - 4). */

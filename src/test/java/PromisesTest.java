@@ -1,12 +1,5 @@
-import java.util.function.LongSupplier;
-
 /** For each promise of the document: ordinary calls, the edges that it names, and wrong inputs. */
-public final class PromisesTest {
-    private static final int LEAST = Integer.MIN_VALUE;
-    private static final int MOST = Integer.MAX_VALUE;
-    private static int wrong = 0;
-    private static int promise = 0;
-
+public final class PromisesTest extends YardCheck {
     public static void main(String[] args) {
         aNewObject();
         machine();
@@ -46,74 +39,11 @@ public final class PromisesTest {
         toss();
         latestWalk();
         refusedCallsChangeNothing();
-        System.out.println(wrong == 0 ? "all promises hold" : wrong + " answers are not as due");
-        if (wrong != 0) {
-            System.exit(1);
-        }
-    }
-
-    private static void due(String call, long got, long want) {
-        if (got != want) {
-            wrong++;
-            System.out.println("promise " + promise + ": " + call + " answered " + got
-                + ", due is " + want);
-        }
-    }
-
-    private static void dueThrow(String call, Class<?> want, LongSupplier supplier) {
-        Class<?> got = null;
-        try {
-            supplier.getAsLong();
-        } catch (RuntimeException e) {
-            got = e.getClass();
-        }
-        if (got != want) {
-            wrong++;
-            System.out.println("promise " + promise + ": " + call + " threw " + got + ", due is "
-                + want);
-        }
-    }
-
-    private static void dueHand(TimedYard x, String when, int... bounds) {
-        for (int at = 0; at < 16; at++) {
-            due(when + " handBound(" + at / 4 + ", " + at % 4 + ")",
-                x.handBound(at / 4, at % 4), bounds[at]);
-        }
-    }
-
-    private static void dueBounds(TimedYard x, int k, int... bounds) {
-        for (int at = 0; at < 16; at++) {
-            due("bound(" + k + ", " + at / 4 + ", " + at % 4 + ")",
-                x.bound(k, at / 4, at % 4), bounds[at]);
-        }
-    }
-
-    private static final int A = TimedYard.ANY;
-
-    private static TimedYard withMachines(int... places) {
-        TimedYard x = new TimedYard();
-        for (int m = 0; m < places.length; m++) {
-            x.machine();
-            for (int p = 0; p < places[m]; p++) {
-                x.place(m);
-            }
-        }
-        return x;
-    }
-
-    /** Nothing is let go, and clock 2 comes to lead clock 1 by ever more. */
-    private static TimedYard endless() {
-        TimedYard x = withMachines(1);
-        x.way(0, 0, 0, 0, 1);
-        x.test(0, 0, 1, -1, false);
-        x.test(0, 0, 4, 1, false);
-        x.way(0, 0, 0, 0, 0);
-        x.test(0, 1, 6, -100, false);
-        return x;
+        end("all promises hold");
     }
 
     private static void aNewObject() {
-        promise = 1;
+        says("promise 1");
         TimedYard x = new TimedYard();
         due("ANY", TimedYard.ANY, 1000000);
         due("count(0)", x.count(0), 0);
@@ -130,7 +60,7 @@ public final class PromisesTest {
     }
 
     private static void machine() {
-        promise = 2;
+        says("promise 2");
         TimedYard x = new TimedYard();
         for (int m = 0; m < 3; m++) {
             due("machine()", x.machine(), m);
@@ -141,7 +71,7 @@ public final class PromisesTest {
     }
 
     private static void place() {
-        promise = 3;
+        says("promise 3");
         TimedYard x = new TimedYard();
         due("place(0)", x.place(0), -1);
         x.machine();
@@ -157,7 +87,7 @@ public final class PromisesTest {
     }
 
     private static void limit() {
-        promise = 4;
+        says("promise 4");
         TimedYard x = withMachines(2);
         int[][] bad = {{1, 0, 1, 5}, {-1, 0, 1, 5}, {0, 2, 1, 5}, {0, -1, 1, 5}, {0, 0, 0, 5},
             {0, 0, 4, 5}, {0, 0, 1, -1}, {0, 0, 1, 101}, {MOST, MOST, MOST, MOST},
@@ -180,7 +110,7 @@ public final class PromisesTest {
     }
 
     private static void way() {
-        promise = 5;
+        says("promise 5");
         TimedYard x = withMachines(2, 1);
         int[][] bad = {{2, 0, 0, 0, 0}, {-1, 0, 0, 0, 0}, {0, 2, 0, 0, 0}, {0, -1, 0, 0, 0},
             {0, 0, 2, 0, 0}, {0, 0, -1, 0, 0}, {0, 0, 0, 10, 0}, {0, 0, 0, -10, 0}, {0, 0, 0, 0, 8},
@@ -215,7 +145,7 @@ public final class PromisesTest {
     }
 
     private static void test() {
-        promise = 6;
+        says("promise 6");
         TimedYard x = withMachines(1);
         x.way(0, 0, 0, 0, 0);
         int[][] bad = {{1, 0, 1, 0}, {-1, 0, 1, 0}, {0, 1, 1, 0}, {0, -1, 1, 0}, {0, 0, 0, 0},
@@ -245,7 +175,7 @@ public final class PromisesTest {
     }
 
     private static void walkAnswers() {
-        promise = 7;
+        says("promise 7");
         TimedYard x = new TimedYard();
         due("walk() without machines", x.walk(), -1);
         x.machine();
@@ -265,11 +195,11 @@ public final class PromisesTest {
         due("count(1)", x.count(1), 0);
         due("count(5)", x.count(5), 0);
         due("keep(0, 3, 0, 0)", x.keep(0, 3, 0, 0), 0);
-        dueThrow("element(0, 0)", IllegalStateException.class, () -> x.element(0, 0));
+        due("element(0, 0)", x, t -> t.element(0, 0), STATE);
     }
 
     private static void walkOrder() {
-        promise = 7;
+        says("promise 7");
         TimedYard x = withMachines(3, 3, 3);
         x.way(2, 0, 1, 0, 0);
         x.way(1, 0, 2, 0, 0);
@@ -297,7 +227,7 @@ public final class PromisesTest {
     }
 
     private static void walkSpent() {
-        promise = 7;
+        says("promise 7");
         TimedYard x = withMachines(1);
         x.way(0, 0, 0, 0, 1);
         x.test(0, 0, 1, -1, false);
@@ -322,21 +252,8 @@ public final class PromisesTest {
         due("walk() that would come to 201", twoLadders(98, 99).walk(), -202);
     }
 
-    /** Two places where clock 2 can come to lead clock 1 by one more than is told. */
-    private static TimedYard twoLadders(int a, int b) {
-        TimedYard x = withMachines(2);
-        for (int w = 0; w < 2; w++) {
-            x.way(0, w, w, 0, 1);
-            x.test(0, w, 1, -1, false);
-            x.test(0, w, 4, 1, false);
-            x.test(0, w, 9, w == 0 ? a : b, false);
-        }
-        x.way(0, 0, 1, 0, 7);
-        return x;
-    }
-
     private static void walkWithWords() {
-        promise = 7;
+        says("promise 7");
         // A word is not taken by the machine that gives it, nor without a giver.
         TimedYard x = withMachines(2);
         x.way(0, 0, 1, 4, 0);
@@ -372,7 +289,7 @@ public final class PromisesTest {
     }
 
     private static void walkSpentByWords() {
-        promise = 7;
+        says("promise 7");
         TimedYard x = withMachines(1, 1);
         x.way(0, 0, 0, 8, 1);
         x.test(0, 0, 1, -1, false);
@@ -388,7 +305,7 @@ public final class PromisesTest {
 
     /** The same machines are gone through in the same way, whatever was walked before. */
     private static void walkAgain() {
-        promise = 7;
+        says("promise 7");
         TimedYard x = withMachines(3);
         x.way(0, 0, 1, 0, 1);
         x.test(0, 0, 1, -2, false);
@@ -420,7 +337,7 @@ public final class PromisesTest {
     }
 
     private static void walkLimitsOfAll() {
-        promise = 7;
+        says("promise 7");
         // A machine that stays still holds time back, as does the place that a way leads to.
         TimedYard x = withMachines(2, 1);
         x.limit(1, 0, 2, 5, false);
@@ -434,7 +351,7 @@ public final class PromisesTest {
     }
 
     private static void state() {
-        promise = 8;
+        says("promise 8");
         TimedYard x = withMachines(3, 1);
         x.way(0, 0, 1, 0, 0);
         x.way(0, 1, 2, 0, 0);
@@ -454,7 +371,7 @@ public final class PromisesTest {
     }
 
     private static void bound() {
-        promise = 9;
+        says("promise 9");
         TimedYard x = withMachines(2);
         x.limit(0, 0, 1, 5, false);
         x.way(0, 0, 1, 0, 1);
@@ -467,13 +384,12 @@ public final class PromisesTest {
         int[][] bad = {{2, 0, 0}, {-1, 0, 0}, {0, 4, 0}, {0, 0, 4}, {0, -1, 0}, {0, 0, -1},
             {LEAST, LEAST, LEAST}, {MOST, MOST, MOST}};
         for (int[] b : bad) {
-            dueThrow("bound of a wrong input", IllegalArgumentException.class,
-                () -> x.bound(b[0], b[1], b[2]));
+            due("bound of a wrong input", x, t -> t.bound(b[0], b[1], b[2]), ARGUMENT);
         }
     }
 
     private static void seen() {
-        promise = 10;
+        says("promise 10");
         TimedYard x = withMachines(3, 2);
         x.way(0, 0, 1, 0, 0);
         x.way(1, 0, 1, 0, 0);
@@ -488,7 +404,7 @@ public final class PromisesTest {
     }
 
     private static void lead() {
-        promise = 11;
+        says("promise 11");
         TimedYard x = withMachines(3, 2);
         x.way(0, 0, 1, 0, 0);
         x.way(0, 1, 2, 7, 0);
@@ -510,7 +426,7 @@ public final class PromisesTest {
     }
 
     private static void soonest() {
-        promise = 12;
+        says("promise 12");
         TimedYard x = withMachines(4);
         x.way(0, 0, 1, 0, 1);
         x.test(0, 0, 1, -3, true);
@@ -530,7 +446,7 @@ public final class PromisesTest {
     }
 
     private static void soonestIsNotLetGo() {
-        promise = 12;
+        says("promise 12");
         // Each turn takes 10 at least, though greatest numbers forget how long clock 2 has run.
         TimedYard x = withMachines(6);
         for (int p = 0; p < 5; p++) {
@@ -553,7 +469,7 @@ public final class PromisesTest {
     }
 
     private static void stuck() {
-        promise = 13;
+        says("promise 13");
         TimedYard x = withMachines(4);
         x.way(0, 0, 1, 0, 0);
         x.way(0, 0, 2, 0, 0);
@@ -582,7 +498,7 @@ public final class PromisesTest {
     }
 
     private static void hand() {
-        promise = 14;
+        says("promise 14");
         TimedYard x = withMachines(1);
         due("hand(2, 0) before a walk", x.hand(2, 0), -1);
         x.limit(0, 0, 1, 5, false);
@@ -610,7 +526,7 @@ public final class PromisesTest {
     }
 
     private static void tighten() {
-        promise = 15;
+        says("promise 15");
         TimedYard x = new TimedYard();
         due("tighten(1, 0, 8, false)", x.tighten(1, 0, 8, false), 0);
         due("tighten(2, 1, -3, true)", x.tighten(2, 1, -3, true), 0);
@@ -639,7 +555,7 @@ public final class PromisesTest {
     }
 
     private static void pass() {
-        promise = 16;
+        says("promise 16");
         TimedYard x = new TimedYard();
         x.hand(1, 0);
         x.tighten(0, 1, 0, false);
@@ -654,7 +570,7 @@ public final class PromisesTest {
     }
 
     private static void set() {
-        promise = 17;
+        says("promise 17");
         TimedYard x = new TimedYard();
         x.tighten(1, 0, 9, false);
         x.tighten(0, 1, -2, true);
@@ -675,7 +591,7 @@ public final class PromisesTest {
     }
 
     private static void letGo() {
-        promise = 18;
+        says("promise 18");
         TimedYard x = new TimedYard();
         x.tighten(1, 0, 7, false);
         x.tighten(0, 2, -9, false);
@@ -721,7 +637,7 @@ public final class PromisesTest {
     }
 
     private static void meet() {
-        promise = 19;
+        says("promise 19");
         TimedYard x = withMachines(2);
         x.limit(0, 0, 1, 5, false);
         x.way(0, 0, 1, 0, 0);
@@ -746,7 +662,7 @@ public final class PromisesTest {
     }
 
     private static void within() {
-        promise = 20;
+        says("promise 20");
         TimedYard x = withMachines(1);
         x.limit(0, 0, 1, 5, false);
         due("within(0) before a walk", x.within(0), -1);
@@ -768,7 +684,7 @@ public final class PromisesTest {
     }
 
     private static void handBound() {
-        promise = 21;
+        says("promise 21");
         TimedYard x = new TimedYard();
         x.tighten(3, 2, 5, true);
         due("handBound(3, 2)", x.handBound(3, 2), 10);
@@ -776,18 +692,17 @@ public final class PromisesTest {
         due("handBound(3, 3)", x.handBound(3, 3), 1);
         int[][] bad = {{4, 0}, {0, 4}, {-1, 0}, {0, -1}, {LEAST, MOST}, {MOST, LEAST}};
         for (int[] b : bad) {
-            dueThrow("handBound of a wrong input", IllegalArgumentException.class,
-                () -> x.handBound(b[0], b[1]));
+            due("handBound of a wrong input", x, t -> t.handBound(b[0], b[1]), ARGUMENT);
         }
         x.hand(3, 0);
         for (int at = 0; at < 16; at++) {
             due("empty: handBound", x.handBound(at / 4, at % 4), -2000000);
         }
-        dueThrow("empty: handBound(4, 4)", IllegalArgumentException.class, () -> x.handBound(4, 4));
+        due("empty: handBound(4, 4)", x, t -> t.handBound(4, 4), ARGUMENT);
     }
 
     private static void count() {
-        promise = 22;
+        says("promise 22");
         TimedYard x = withMachines(3, 1);
         x.way(0, 0, 1, 0, 0);
         x.test(0, 0, 1, -12, false);
@@ -822,7 +737,7 @@ public final class PromisesTest {
     }
 
     private static void countsOfASpentWalk() {
-        promise = 22;
+        says("promise 22");
         // Each state has one move that is covered and one that is new, in this order.
         TimedYard x = withMachines(1);
         x.way(0, 0, 0, 0, 0);
@@ -850,7 +765,7 @@ public final class PromisesTest {
     }
 
     private static void keep() {
-        promise = 23;
+        says("promise 23");
         TimedYard x = withMachines(2);
         x.way(0, 0, 1, 0, 0);
         int[][] bad = {{-1, 0, 0, 0}, {8, 0, 0, 0}, {0, 5, 0, 0}, {0, -1, 0, 0}, {0, 1, 1, 0},
@@ -871,12 +786,12 @@ public final class PromisesTest {
         x.walk();
         due("element(2, 0)", x.element(2, 0), 0);
         due("element(2, 1)", x.element(2, 1), 1);
-        dueThrow("element(2, 2)", IllegalStateException.class, () -> x.element(2, 2));
+        due("element(2, 2)", x, t -> t.element(2, 2), STATE);
         long[] row = {1, 1, 1, 1, A, 1, 1, 1, A, 1, 1, 1, A, 1, 1, 1};
         for (int i = 0; i < 16; i++) {
             due("element(7, " + i + ")", x.element(7, i), row[i]);
         }
-        dueThrow("element(7, 16)", IllegalStateException.class, () -> x.element(7, 16));
+        due("element(7, 16)", x, t -> t.element(7, 16), STATE);
         due("keep(7, 4, 0, 2)", x.keep(7, 4, 0, 2), -1);
         due("keep(7, 0, -9, -9)", x.keep(7, 0, -9, -9), 0);
         due("weight(7)", x.weight(7), -11);
@@ -885,17 +800,17 @@ public final class PromisesTest {
         y.walk();
         due("keep(3, 3, 0, 0)", y.keep(3, 3, 0, 0), 0);
         due("element(3, 59)", y.element(3, 59), 0);
-        dueThrow("element(3, 60)", IllegalStateException.class, () -> y.element(3, 60));
+        due("element(3, 60)", y, t -> t.element(3, 60), STATE);
     }
 
     private static void make() {
-        promise = 24;
+        says("promise 24");
         TimedYard x = new TimedYard();
         due("make(0, 3, 60)", x.make(0, 3, 60), 0);
         due("make(7, 4, 60)", x.make(7, 4, 60), 0);
         due("element(0, 59)", x.element(0, 59), 0);
         due("element(7, 59)", x.element(7, 59), 0);
-        dueThrow("element(7, 60)", IllegalStateException.class, () -> x.element(7, 60));
+        due("element(7, 60)", x, t -> t.element(7, 60), STATE);
         due("copy of two kinds", x.copy(0, 0, 7, 0, 1), -12);
         int[][] bad = {{-1, 3, 1}, {8, 3, 1}, {0, 2, 1}, {0, 5, 1}, {0, 3, 61}, {0, 4, MOST},
             {8, 3, -1}, {0, 2, -1}, {LEAST, LEAST, LEAST}};
@@ -906,30 +821,30 @@ public final class PromisesTest {
         due("make(0, 4, LEAST)", x.make(0, 4, LEAST), -14);
         due("element(0, 59)", x.element(0, 59), 0);
         due("make(0, 3, 0)", x.make(0, 3, 0), 0);
-        dueThrow("element(0, 0)", IllegalStateException.class, () -> x.element(0, 0));
+        due("element(0, 0)", x, t -> t.element(0, 0), STATE);
     }
 
     private static void element() {
-        promise = 25;
+        says("promise 25");
         TimedYard x = withMachines(1);
         x.way(0, 0, 0, 0, 0);
         x.keep(0, 1, 0, 0);
         x.keep(1, 2, 0, 0);
         x.make(2, 3, 3);
         for (int d : new int[] {-1, 8, LEAST, MOST}) {
-            dueThrow("element(" + d + ", 0)", IllegalArgumentException.class, () -> x.element(d, 0));
+            due("element(" + d + ", 0)", x, t -> t.element(d, 0), ARGUMENT);
         }
-        dueThrow("element of a way", IllegalStateException.class, () -> x.element(0, 0));
-        dueThrow("element of a place", IllegalStateException.class, () -> x.element(1, 0));
-        dueThrow("element of nothing", IllegalStateException.class, () -> x.element(3, 0));
+        due("element of a way", x, t -> t.element(0, 0), STATE);
+        due("element of a place", x, t -> t.element(1, 0), STATE);
+        due("element of nothing", x, t -> t.element(3, 0), STATE);
         for (int i : new int[] {-1, 3, LEAST, MOST}) {
-            dueThrow("element(2, " + i + ")", IllegalStateException.class, () -> x.element(2, i));
+            due("element(2, " + i + ")", x, t -> t.element(2, i), STATE);
         }
         due("element(2, 2)", x.element(2, 2), 0);
     }
 
     private static void copy() {
-        promise = 26;
+        says("promise 26");
         TimedYard x = withMachines(2);
         x.limit(0, 0, 1, 5, false);
         x.way(0, 0, 1, 0, 2);
@@ -979,7 +894,7 @@ public final class PromisesTest {
     }
 
     private static void weight() {
-        promise = 27;
+        says("promise 27");
         TimedYard x = withMachines(1);
         x.limit(0, 0, 1, 5, false);
         x.limit(0, 0, 2, 5, false);
@@ -1005,7 +920,7 @@ public final class PromisesTest {
     }
 
     private static void toss() {
-        promise = 28;
+        says("promise 28");
         TimedYard x = withMachines(1);
         for (int word : new int[] {1, 9, -1, -9}) {
             int w = x.way(0, 0, 0, word, 0);
@@ -1029,7 +944,7 @@ public final class PromisesTest {
 
     /** What is told of a walk stays, whatever comes to the machines. */
     private static void latestWalk() {
-        promise = 7;
+        says("promise 7");
         TimedYard x = withMachines(2);
         x.way(0, 0, 1, 0, 0);
         x.test(0, 0, 1, -3, false);
@@ -1057,7 +972,7 @@ public final class PromisesTest {
     }
 
     private static void refusedCallsChangeNothing() {
-        promise = 4;
+        says("promise 4");
         TimedYard x = withMachines(1);
         x.limit(0, 0, 1, 5, false);
         x.limit(0, 0, 2, 9, false);
@@ -1066,15 +981,15 @@ public final class PromisesTest {
         x.walk();
         due("bound(0, 1, 0)", x.bound(0, 1, 0), 11);
         due("count(7)", x.count(7), 0);
-        promise = 26;
+        says("promise 26");
         x.keep(0, 4, 0, 0);
         x.make(1, 4, 3);
         due("copy(0, 0, 1, 1, 3)", x.copy(0, 0, 1, 1, 3), -13);
         due("element(1, 1)", x.element(1, 1), 0);
-        promise = 24;
+        says("promise 24");
         due("make(0, 4, -2)", x.make(0, 4, -2), -14);
         due("element(0, 4)", x.element(0, 4), 11);
-        promise = 15;
+        says("promise 15");
         x.tighten(1, 0, 401, false);
         x.letGo(0, 0, 201);
         x.set(8);
