@@ -27,6 +27,8 @@ public final class CopyTest extends YardCheck {
         betweenRows();
         says("each SHELF has a ROW of its own");
         keptRowsAreApart();
+        says("make: SHELF d gets a ROW of n shorts, or longs, 0");
+        madeAnew();
         end("all copies are as due");
     }
 
@@ -169,5 +171,15 @@ public final class CopyTest extends YardCheck {
         due("element(3, 0)", x.element(3, 0), 1);
         due("bound(0, 0, 0)", x.bound(0, 0, 0), 1);
         due("state(0, 0)", x.state(0, 0), 0);
+    }
+
+    private static void madeAnew() {
+        for (int what = 3; what < 5; what++) {
+            for (int size : new int[] {5, 6, 7}) {
+                TimedYard x = withSix(what);
+                due("make(0, " + what + ", " + size + ")", x.make(0, what, size), 0);
+                dueRow("made anew", row(x, 0, size), new long[size]);
+            }
+        }
     }
 }

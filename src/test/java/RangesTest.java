@@ -163,6 +163,10 @@ public final class RangesTest extends YardCheck {
                 int states = given == 0 && taken == 0 ? 4
                     : given == 0 || taken == 0 || given == -taken ? 2 : 1;
                 due("walk() with words " + given + ", " + taken, x.walk(), states);
+                if (given != 0 && given == -taken) {
+                    due("the one that gives " + given, x.lead(1, 0, 0), given > 0 ? 0 : 1);
+                    due("the one that takes " + taken, x.lead(1, 0, 2), given > 0 ? 1 : 0);
+                }
             }
         }
     }

@@ -585,6 +585,11 @@ public final class WalkEdgesTest extends YardCheck {
             x.place(x.count(0) - 1);
         }
         due("count(0)", x.count(0), 3);
+        says("THE HAND's ZONE and the SHELVES keep what they got from a walk before");
+        due("walk()", x.walk(), 3);
+        due("handBound(0, 3)", x.handBound(0, 3), 0);
+        due("element(0, 1)", x.element(0, 1), 1);
+        due("element(0, 2)", x, y -> y.element(0, 2), STATE);
     }
 
     private static void asItIsThen() {
