@@ -204,6 +204,9 @@ public final class RandomRunsTest {
                 due("bound(" + s + ", " + i + ", " + j + ")",
                     answer(() -> yard.bound(s, i, j)), answer(() -> plain.bound(s, i, j)));
             }
+            if (s < states) {
+                dueClosed("STATE " + s, (i, j) -> yard.bound(s, i, j));
+            }
         }
         for (int what = 0; what < 8; what++) {
             due("count(" + what + ")", yard.count(what), plain.count(what));
@@ -218,6 +221,34 @@ public final class RandomRunsTest {
             due("handBound(" + i + ", " + j + ")",
                 answer(() -> yard.handBound(i, j)), answer(() -> plain.handBound(i, j)));
         }
+        if (yard.handBound(0, 0) != -2000000) {
+            dueClosed("THE HAND", yard::handBound);
+        }
+    }
+
+    private interface Bounds {
+        int of(int i, int j);
+    }
+
+    /** 'gives CLOSED ones', by the Terms alone: no SUM is tighter, and no CLOCK is below 0. */
+    private void dueClosed(String name, Bounds zone) {
+        for (int i = 0; i < 4; i++) {
+            boolean closed = zone.of(i, i) == 1 && zone.of(0, i) <= 1;
+            for (int at = 0; at < 16; at++) {
+                int j = at / 4;
+                int k = at % 4;
+                closed &= sum(zone.of(i, k), zone.of(k, j)) >= zone.of(i, j);
+            }
+            if (!closed) {
+                due("CLOSED, of " + name + " and CLOCK " + i, 0, 1);
+            }
+        }
+    }
+
+    private static int sum(int a, int b) {
+        boolean atMost = Math.floorMod(a, 2) == 1 && Math.floorMod(b, 2) == 1;
+        int c = Math.floorDiv(a, 2) + Math.floorDiv(b, 2);
+        return a == 1000000 || b == 1000000 ? 1000000 : atMost ? 2 * c + 1 : 2 * c;
     }
 
     private interface Call {
